@@ -280,14 +280,15 @@ final class Model {
 
     /** The year to ask of, and how many rooms are left at worst then. */
     int[] ask(int[] row, int stone) {
-        List<Integer> rooms = rooms(row, stone);
+        List<Go> ways = new ArrayList<>();
+        for (int r : rooms(row, stone)) ways.add(withRoom(stone, r).go());
         int best = -1;
-        int fewest = rooms.size();
+        int fewest = ways.size();
         for (int y = 0; y <= years; y++) {
             int worst = 0;
             for (int held = 0; held <= 60; held++) {
                 int n = 0;
-                for (int r : rooms) if (withRoom(stone, r).go().has(stone, y) == held) n++;
+                for (Go g : ways) if (g.has(stone, y) == held) n++;
                 worst = Math.max(worst, n);
             }
             if (worst < fewest) {

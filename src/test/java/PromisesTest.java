@@ -91,6 +91,8 @@ public final class PromisesTest {
         eq("p4 to none", x.choir(), 0);
         eq("p4 there is none then", x.all(0), -2);
         eq("p4 nor walls", x.wall(0, 0), -2);
+        for (int i = 0; i <= 9; i++) eq("p71 there is none then, " + i, x.count(i), 0);
+        retold();
         x.feed(0xc3000000, 0, 0, 0, 0);
         eq("p4 strange bytes", x.choir(), -4);
         eq("p5 strange byte", x.fault(0), 1);
@@ -99,6 +101,21 @@ public final class PromisesTest {
         eq("p4 cut short", x.choir(), -4);
         eq("p5 end", x.fault(0), 1);
         eq("p5 the end's place", x.fault(1), 27);
+    }
+
+    /** What was worked out of one choir is not told of the next. */
+    private static void retold() {
+        DrinkingStones x = Check.of(A);
+        eq("p4 one", x.all(4), 19);
+        eq("p4 one", x.share(0, 0), -5);
+        eq("p4 one", x.chance(0, 1), 8);
+        Check.feed(x, FALL);
+        eq("p4 another", x.choir(), 7);
+        eq("p4 another", x.all(1), 5);
+        eq("p4 another", x.share(0, 0), 0);
+        eq("p4 another", x.chance(0, 1), 1);
+        eq("p4 another", x.lost(1), 3);
+        eq("p4 heard anew", x.heard(1), 0);
     }
 
     private static void told() {
@@ -416,6 +433,12 @@ public final class PromisesTest {
             eq("p53 no stone", x.ask(0, stone), -2);
             eq("p54 no stone", x.leaves(0, stone), -2);
         }
+        // only the twelfth year's rain tells the rooms from 5 on apart: all but those from 9 on
+        DrinkingStones late = Check.of("choir years 12 law 0 odds 0;wall bears 300 gives 60;stone room 7 wide 1 on 0;rain 4 of 1 at 0;rain 5 of 1 at 11;");
+        Check.row(late, 0, 0, 1, 4);
+        eq("p50 from 4 on", late.rooms(0, 0), 57);
+        eq("p53 the last year", late.ask(0, 0), 12);
+        eq("p54 the last year", late.leaves(0, 0), 52);
         eq("p50 changes nothing", x.stone(0, 0), 10);
     }
 
@@ -682,6 +705,13 @@ public final class PromisesTest {
         x.write(1, 2, 6);
         x.row(1, 0, 3);
         eq("p74 all 0", x.rooms(1, 0), 60);
+        Check.row(x, 1, 9, 9, 9);
+        Check.row(x, 1, 0, 0, 0);
+        x.row(1, 2, 3);
+        x.write(1, 0, 9);
+        eq("p75 the first number", x.rooms(1, 0), -2);
+        x.row(1, 2, 3);
+        eq("p74 the first, too", x.rooms(1, 0), 60);
         pasting(x);
     }
 

@@ -279,11 +279,9 @@ public final class RandomTest {
             eq("least", x.least(round, stone), rooms.isEmpty() ? -1 : rooms.get(0));
             eq("greatest", x.greatest(round, stone), rooms.isEmpty() ? -1 : rooms.get(rooms.size() - 1));
             eq("laws", x.laws(round), m.laws(row));
-            if (m.years <= 4 && random.nextInt(8) == 0) {
-                int[] ask = m.ask(row, stone);
-                eq("ask", x.ask(round, stone), ask[0]);
-                eq("leaves", x.leaves(round, stone), ask[1]);
-            }
+            int[] ask = m.ask(row, stone);
+            eq("ask", x.ask(round, stone), ask[0]);
+            eq("leaves", x.leaves(round, stone), ask[1]);
         }
     }
 

@@ -34,6 +34,15 @@ public final class TextTest {
         for (String text : texts) {
             check(text);
         }
+        // each number at, just below and just above its bounds
+        String head = "choir years 1 law 1 odds 1;wall bears 1 gives 1;stone room 1 wide 1 on 0;rain 1 of 1 at 1;tap 0 1 at 1;";
+        Matcher numbers = Pattern.compile("[0-9]+").matcher(head);
+        int[] edges = {0, 1, 2, 3, 4, 5, 6, 10, 11, 12, 13, 20, 21, 60, 61, 300, 301};
+        while (numbers.find()) {
+            for (int edge : edges) {
+                check(head.substring(0, numbers.start()) + edge + head.substring(numbers.end()));
+            }
+        }
     }
 
     private static String mutated(Random random) {
