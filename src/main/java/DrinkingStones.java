@@ -1652,11 +1652,15 @@ public final class DrinkingStones {
             int cell = cell(stone, year + 1);
             int most = law == BY_PRESSING ? room[stone] : room[stone] - held[cell];
             int goesIn = much < most ? much : most;
-            if (goesIn > 0) {
-                spilt[year] += drain(cell, held[cell] + goesIn - room[stone]);
-                lay(cell, sort, goesIn);
-                drunk[stone] += goesIn;
+            if (goesIn <= 0) {
+                return much;
             }
+            int pressedOut = held[cell] + goesIn - room[stone];
+            if (pressedOut > 0) {
+                spilt[year] += drain(cell, pressedOut);
+            }
+            lay(cell, sort, goesIn);
+            drunk[stone] += goesIn;
             return much - goesIn;
         }
 
@@ -1695,7 +1699,7 @@ public final class DrinkingStones {
                 muchAt[lowest + i - emptied] = muchAt[lowest + i];
             }
             depth[cell] -= emptied;
-            return much > 0 ? much - rest : 0;
+            return much - rest;
         }
 
         private void tapInto(int year) {
