@@ -122,6 +122,12 @@ public final class TermsTest {
             if (!Character.isDigit(tokens[i].charAt(0))) {
                 fails(upTo + "1", 1, upTo.length());
             }
+            for (int k = 0; Character.isLetter(tokens[i].charAt(0)) && k < tokens[i].length(); k++) {
+                fails(upTo + tokens[i].substring(0, k) + "x" + tokens[i].substring(k + 1), 1, upTo.length());
+                if (k > 0) {
+                    fails(upTo + tokens[i].substring(0, k) + " 1 at 0;", 1, upTo.length());
+                }
+            }
             upTo += tokens[i] + " ";
         }
     }
@@ -318,13 +324,9 @@ public final class TermsTest {
 
     // ---- II ----
 
-    private static DrinkingStones with(int years, int law, String behind) {
-        return Check.of(Told.choir(years, law, 0) + STRONG + STRONG + behind);
-    }
-
     private static void layers() {
         says("II. A STONE has LAYERS of water, the oldest lowest: each of a SORT, so many MEASURES.");
-        DrinkingStones x = with(2, 0, Told.stone(20, 1, 0) + Told.rain(3, 5, 0) + Told.rain(4, 2, 1));
+        DrinkingStones x = Told.with(2, 0, Told.stone(20, 1, 0) + Told.rain(3, 5, 0) + Told.rain(4, 2, 1));
         eq("layers", x.layers(0, 2), 2);
         eq("oldest", x.layer(0, 2, 0, 0), 5);
         eq("of it", x.layer(0, 2, 0, 1), 3);
@@ -336,16 +338,16 @@ public final class TermsTest {
         says("It DRINKS so many MEASURES of a SORT: as far as it has room, as its top LAYER (one with that which was, if that is of the SORT);");
         int[][] rooms = {{6, 5, 0}, {5, 5, 0}, {4, 4, 1}, {1, 1, 4}};
         for (int[] one : rooms) {
-            DrinkingStones y = with(1, 0, Told.stone(one[0], 1, 0) + Told.rain(5, 1, 0));
+            DrinkingStones y = Told.with(1, 0, Told.stone(one[0], 1, 0) + Told.rain(5, 1, 0));
             eq("5 into room " + one[0], y.has(0, 1), one[1]);
             eq("lost by room " + one[0], y.lost(0), one[2]);
         }
-        DrinkingStones same = with(2, 0, Told.stone(20, 1, 0) + Told.rain(3, 1, 0) + Told.rain(4, 1, 1));
+        DrinkingStones same = Told.with(2, 0, Told.stone(20, 1, 0) + Told.rain(3, 1, 0) + Told.rain(4, 1, 1));
         eq("one layer", same.layers(0, 2), 1);
         eq("of both", same.layer(0, 2, 0, 1), 7);
-        DrinkingStones between = with(2, 0, Told.stone(20, 1, 0) + Told.rain(3, 1, 0) + Told.rain(4, 2, 0) + Told.rain(5, 1, 1));
+        DrinkingStones between = Told.with(2, 0, Told.stone(20, 1, 0) + Told.rain(3, 1, 0) + Told.rain(4, 2, 0) + Told.rain(5, 1, 1));
         eq("not one with a lower one", between.layers(0, 2), 3);
-        DrinkingStones full = with(2, 0, Told.stone(3, 1, 0) + Told.rain(3, 1, 0) + Told.rain(4, 2, 1));
+        DrinkingStones full = Told.with(2, 0, Told.stone(3, 1, 0) + Told.rain(3, 1, 0) + Told.rain(4, 2, 1));
         eq("no layer of nothing", full.layers(0, 2), 1);
         eq("nor on top", full.top(0, 2), 1);
         // as many layers as rains can bring: told ones and acts, by turns of two sorts
@@ -353,7 +355,7 @@ public final class TermsTest {
         for (int i = 0; i < 8; i++) {
             eight.append(Told.rain(1, 1 + i % 2, 0));
         }
-        DrinkingStones many = with(1, 0, eight.toString());
+        DrinkingStones many = Told.with(1, 0, eight.toString());
         for (int i = 0; i < 30; i++) {
             many.rains(1, 1 + i % 2, 0);
         }
@@ -364,7 +366,7 @@ public final class TermsTest {
 
     private static void lawsLost() {
         says("what is more by LAW, 0: is lost.");
-        DrinkingStones x = with(1, 0, Told.stone(2, 1, 0) + Told.stone(60, 1, 0) + Told.rain(5, 1, 0));
+        DrinkingStones x = Told.with(1, 0, Told.stone(2, 1, 0) + Told.stone(60, 1, 0) + Told.rain(5, 1, 0));
         eq("lost", x.lost(0), 3);
         eq("the next one", x.has(1, 1), 5);
         eq("drinks", x.drinks(0), 2);
@@ -372,26 +374,26 @@ public final class TermsTest {
 
     private static void lawsComingOn() {
         says("1: is DRUNK by the next STONE (of a greater number) on its WALL; behind the last it is lost.");
-        DrinkingStones x = with(1, 1, Told.stone(2, 1, 0) + Told.stone(60, 1, 1) + Told.stone(60, 1, 0) + Told.rain(5, 1, 0));
+        DrinkingStones x = Told.with(1, 1, Told.stone(2, 1, 0) + Told.stone(60, 1, 1) + Told.stone(60, 1, 0) + Told.rain(5, 1, 0));
         eq("not on another wall", x.has(1, 1), 5);
         eq("the next on its wall", x.has(2, 1), 8);
         eq("lost", x.lost(0), 0);
-        DrinkingStones last = with(1, 1, Told.stone(60, 1, 0) + Told.stone(2, 1, 0) + Told.stone(60, 1, 1) + Told.rain(5, 1, 0));
+        DrinkingStones last = Told.with(1, 1, Told.stone(60, 1, 0) + Told.stone(2, 1, 0) + Told.stone(60, 1, 1) + Told.rain(5, 1, 0));
         eq("none of a lesser number", last.has(0, 1), 5);
         eq("behind the last", last.lost(0), 3);
         eq("not on another wall", last.has(2, 1), 5);
-        DrinkingStones chain = with(1, 1, Told.stone(1, 1, 0) + Told.stone(1, 1, 0) + Told.stone(8, 1, 0) + Told.rain(5, 1, 0));
+        DrinkingStones chain = Told.with(1, 1, Told.stone(1, 1, 0) + Told.stone(1, 1, 0) + Told.stone(8, 1, 0) + Told.rain(5, 1, 0));
         eq("on and on", chain.has(2, 1), 8);
         eq("as far as there is room", chain.lost(0), 5);
         eq("those that come on are drunk", chain.drinks(2), 8);
         says("2: by the next STONE on any WALL; likewise.");
-        DrinkingStones any = with(1, 2, Told.stone(2, 1, 0) + Told.stone(60, 1, 1) + Told.stone(60, 1, 0) + Told.rain(5, 1, 0));
+        DrinkingStones any = Told.with(1, 2, Told.stone(2, 1, 0) + Told.stone(60, 1, 1) + Told.stone(60, 1, 0) + Told.rain(5, 1, 0));
         eq("the next on any wall", any.has(1, 1), 8);
         eq("not the one behind it", any.has(2, 1), 5);
-        DrinkingStones end = with(1, 2, Told.stone(60, 1, 0) + Told.stone(60, 1, 1) + Told.stone(2, 1, 0) + Told.rain(5, 1, 0));
+        DrinkingStones end = Told.with(1, 2, Told.stone(60, 1, 0) + Told.stone(60, 1, 1) + Told.stone(2, 1, 0) + Told.rain(5, 1, 0));
         eq("none of a lesser number", end.all(1), 12);
         eq("behind the last", end.lost(0), 3);
-        DrinkingStones over = with(1, 2, Told.stone(1, 1, 0) + Told.stone(1, 1, 1) + Told.stone(8, 1, 0) + Told.rain(5, 1, 0));
+        DrinkingStones over = Told.with(1, 2, Told.stone(1, 1, 0) + Told.stone(1, 1, 1) + Told.stone(8, 1, 0) + Told.rain(5, 1, 0));
         eq("on and on", over.has(2, 1), 8);
         eq("as far as there is room", over.lost(0), 5);
     }
@@ -400,21 +402,21 @@ public final class TermsTest {
         says("3: what is more than all its room is lost; for the rest as much is pressed out from the lowest up (and lost, too) as it has no room for, then it DRINKS that.");
         int[][] cases = {{2, 3, 2, 0}, {3, 2, 3, 1}, {4, 1, 4, 2}, {5, 0, 5, 3}, {6, 0, 5, 4}, {20, 0, 5, 18}};
         for (int[] one : cases) {
-            DrinkingStones x = with(2, 3, Told.stone(5, 1, 0) + Told.stone(60, 1, 0) + Told.rain(3, 1, 0) + Told.rain(one[0], 2, 1));
+            DrinkingStones x = Told.with(2, 3, Told.stone(5, 1, 0) + Told.stone(60, 1, 0) + Told.rain(3, 1, 0) + Told.rain(one[0], 2, 1));
             eq("old by a rain of " + one[0], x.sort(0, 2, 1), one[1]);
             eq("new by a rain of " + one[0], x.sort(0, 2, 2), one[2]);
             eq("lost by a rain of " + one[0], x.lost(1), one[3]);
             eq("drinks by a rain of " + one[0], x.drinks(0), 3 + one[2]);
             eq("none comes on by a rain of " + one[0], x.has(1, 2), 3 + one[0]);
         }
-        DrinkingStones more = with(1, 3, Told.stone(5, 1, 0) + Told.rain(6, 1, 0));
+        DrinkingStones more = Told.with(1, 3, Told.stone(5, 1, 0) + Told.rain(6, 1, 0));
         eq("more than all its room", more.lost(0), 1);
         eq("the rest of it", more.has(0, 1), 5);
-        DrinkingStones same = with(2, 3, Told.stone(5, 1, 0) + Told.rain(3, 1, 0) + Told.rain(4, 1, 1));
+        DrinkingStones same = Told.with(2, 3, Told.stone(5, 1, 0) + Told.rain(3, 1, 0) + Told.rain(4, 1, 1));
         eq("of its own sort", same.layers(0, 2), 1);
         eq("pressed out", same.lost(1), 2);
         eq("goes in", same.drinks(0), 7);
-        DrinkingStones low = with(2, 3, Told.stone(9, 1, 0) + Told.rain(2, 1, 0) + Told.rain(3, 2, 0) + Told.rain(4, 3, 0) + Told.rain(3, 4, 1));
+        DrinkingStones low = Told.with(2, 3, Told.stone(9, 1, 0) + Told.rain(2, 1, 0) + Told.rain(3, 2, 0) + Told.rain(4, 3, 0) + Told.rain(3, 4, 1));
         eq("from the lowest up", low.under(0, 2), 2);
         eq("of the next", low.layer(0, 2, 0, 1), 2);
         eq("three are left", low.layers(0, 2), 3);
@@ -438,28 +440,28 @@ public final class TermsTest {
 
     private static void rains() {
         says("III. In each YEAR ahead of the last first RAINS of it come (told ones, then those of acts, in order): of each one STONE by STONE each DRINKS as many MEASURES of its SORT as the RAIN has, times wide.");
-        DrinkingStones x = with(2, 0, Told.stone(60, 1, 0) + Told.rain(5, 1, 1) + Told.rain(7, 2, 2) + Told.rain(7, 2, 11));
+        DrinkingStones x = Told.with(2, 0, Told.stone(60, 1, 0) + Told.rain(5, 1, 1) + Told.rain(7, 2, 2) + Told.rain(7, 2, 11));
         eq("not yet", x.has(0, 1), 0);
         eq("ahead of the last", x.has(0, 2), 5);
-        DrinkingStones last = with(12, 0, Told.stone(60, 1, 0) + Told.rain(5, 1, 11));
+        DrinkingStones last = Told.with(12, 0, Told.stone(60, 1, 0) + Told.rain(5, 1, 11));
         eq("year 11 of twelve", last.has(0, 12), 5);
         eq("year 11 of twelve", last.has(0, 11), 0);
-        DrinkingStones order = with(1, 0, Told.stone(60, 1, 0) + Told.rain(1, 2, 0) + Told.rain(1, 1, 0));
+        DrinkingStones order = Told.with(1, 0, Told.stone(60, 1, 0) + Told.rain(1, 2, 0) + Told.rain(1, 1, 0));
         order.rains(1, 4, 0);
         order.rains(1, 3, 0);
         int[] sorts = {2, 1, 4, 3};
         for (int i = 0; i < 4; i++) {
             eq("in order " + i, order.layer(0, 1, i, 0), sorts[i]);
         }
-        DrinkingStones wide = with(1, 0, Told.stone(60, 4, 0) + Told.stone(60, 3, 0) + Told.stone(60, 1, 0) + Told.rain(15, 1, 0));
+        DrinkingStones wide = Told.with(1, 0, Told.stone(60, 4, 0) + Told.stone(60, 3, 0) + Told.stone(60, 1, 0) + Told.rain(15, 1, 0));
         eq("times 4", wide.has(0, 1), 60);
         eq("times 3", wide.has(1, 1), 45);
         eq("times 1", wide.has(2, 1), 15);
-        DrinkingStones most = with(1, 0, Told.stone(60, 4, 0) + Told.rain(20, 1, 0));
+        DrinkingStones most = Told.with(1, 0, Told.stone(60, 4, 0) + Told.rain(20, 1, 0));
         eq("80 into 60", most.has(0, 1), 60);
         eq("20 of 80", most.lost(0), 20);
         // what comes on is wide by the stone it fell on; rain by rain
-        DrinkingStones on = with(1, 1, Told.stone(4, 2, 0) + Told.stone(60, 1, 0) + Told.rain(3, 1, 0) + Told.rain(3, 2, 0));
+        DrinkingStones on = Told.with(1, 1, Told.stone(4, 2, 0) + Told.stone(60, 1, 0) + Told.rain(3, 1, 0) + Told.rain(3, 2, 0));
         eq("rain by rain", on.layers(1, 1), 2);
         eq("2 of 6 come on, and 3", on.layer(1, 1, 0, 1), 5);
         eq("all 6 come on, and 3", on.layer(1, 1, 1, 1), 9);
@@ -469,16 +471,16 @@ public final class TermsTest {
         says("Then TAPS of it (likewise): a STONE lets out so many MEASURES from the lowest up, as far as it has them: they are HEARD.");
         int[][] cases = {{4, 4, 1}, {5, 5, 0}, {6, 5, 0}, {60, 5, 0}};
         for (int[] one : cases) {
-            DrinkingStones x = with(1, 0, Told.stone(60, 1, 0) + Told.rain(3, 1, 0) + Told.rain(2, 2, 0) + Told.tap(0, one[0], 0));
+            DrinkingStones x = Told.with(1, 0, Told.stone(60, 1, 0) + Told.rain(3, 1, 0) + Told.rain(2, 2, 0) + Told.tap(0, one[0], 0));
             eq("heard by a tap of " + one[0], x.tapped(0), one[1]);
             eq("left by a tap of " + one[0], x.has(0, 1), one[2]);
             eq("lowest first by a tap of " + one[0], x.heard(1), 3);
             eq("lost by a tap of " + one[0], x.lost(0), 0);
         }
-        DrinkingStones layer = with(1, 0, Told.stone(60, 1, 0) + Told.rain(3, 1, 0) + Told.rain(2, 2, 0) + Told.tap(0, 3, 0));
+        DrinkingStones layer = Told.with(1, 0, Told.stone(60, 1, 0) + Told.rain(3, 1, 0) + Told.rain(2, 2, 0) + Told.tap(0, 3, 0));
         eq("a whole layer", layer.layers(0, 1), 1);
         eq("the next is lowest", layer.under(0, 1), 2);
-        DrinkingStones x = with(2, 0, Told.stone(60, 1, 0) + Told.rain(3, 1, 0) + Told.rain(2, 2, 1) + Told.tap(0, 1, 2) + Told.tap(0, 2, 0));
+        DrinkingStones x = Told.with(2, 0, Told.stone(60, 1, 0) + Told.rain(3, 1, 0) + Told.rain(2, 2, 1) + Told.tap(0, 1, 2) + Told.tap(0, 2, 0));
         eq("of its year", x.tapped(0), 2);
         eq("of the last year", x.heard(1), 2);
         // told ones first: the act's tap hears what they leave
@@ -522,7 +524,7 @@ public final class TermsTest {
             }
         }
         says("So it is in the next YEAR, ahead of RAINS of it.");
-        DrinkingStones x = with(3, 0, Told.stone(60, 1, 0) + Told.rain(1, 1, 0) + Told.rain(2, 1, 1) + Told.rain(4, 1, 2));
+        DrinkingStones x = Told.with(3, 0, Told.stone(60, 1, 0) + Told.rain(1, 1, 0) + Told.rain(2, 1, 1) + Told.rain(4, 1, 2));
         for (int year = 0; year <= 3; year++) {
             eq("in year " + year, x.has(0, year), (1 << year) - 1);
         }
@@ -544,11 +546,15 @@ public final class TermsTest {
         DrinkingStones acts = Check.of(Told.choir(2, 0, 0) + Told.wall(7, 1) + Told.stone(60, 1, 0) + Told.rain(4, 1, 0) + Told.rain(8, 1, 1));
         acts.taps(0, 1, 1);
         eq("with a tap of an act", acts.save(1), 1);
+        // nothing that it let out is there to be tapped: 4 are heard in year 1, and 9 are too much in year 2
+        DrinkingStones empty = Check.of(Told.choir(3, 0, 0) + Told.wall(7, 1) + Told.stone(60, 1, 0) + Told.rain(4, 1, 0) + Told.rain(4, 2, 1) + Told.rain(8, 1, 2)
+                + Told.tap(0, 60, 1));
+        eq("let out for good", empty.save(1), -1);
     }
 
     private static void seen() {
         says("V. SEEN: a SLOT's row, three numbers each: a STONE, a YEAR, MEASURES in it: room of one STONE was otherwise (1 .. 60).");
-        DrinkingStones x = with(1, 1, Told.stone(9, 1, 0) + Told.stone(60, 1, 0) + Told.rain(20, 1, 0));
+        DrinkingStones x = Told.with(1, 1, Told.stone(9, 1, 0) + Told.stone(60, 1, 0) + Told.rain(20, 1, 0));
         x.row(0, 0, 0);
         eq("all rooms", x.rooms(0, 0), 60);
         eq("from 1", x.least(0, 0), 1);
@@ -571,7 +577,7 @@ public final class TermsTest {
 
     private static void setsAlone() {
         says("VI. A set of STONES alone DRINKS (what others would is lost): it is worth what all have in the last YEAR.");
-        DrinkingStones x = with(1, 2, Told.stone(2, 1, 0) + Told.stone(60, 1, 1) + Told.rain(5, 1, 0));
+        DrinkingStones x = Told.with(1, 2, Told.stone(2, 1, 0) + Told.stone(60, 1, 1) + Told.rain(5, 1, 0));
         eq("none", x.worth(0), 0);
         eq("the first", x.worth(1), 2);
         eq("the second: none comes on", x.worth(2), 5);
@@ -587,7 +593,7 @@ public final class TermsTest {
         DrinkingStones below = Check.of(Told.choir(1, 0, 0) + Told.wall(9, 1) + Told.stone(2, 1, 0) + Told.stone(8, 1, 0) + Told.rain(9, 1, 0));
         eq("2 first, 8 less then", below.share(0, 0), -3);
         eq("8 first, 2 less then", below.share(1, 0), 3);
-        DrinkingStones one = with(1, 0, Told.stone(2, 1, 0) + Told.rain(5, 1, 0));
+        DrinkingStones one = Told.with(1, 0, Told.stone(2, 1, 0) + Told.rain(5, 1, 0));
         eq("one order", one.share(0, 0), 2);
     }
 
@@ -595,9 +601,9 @@ public final class TermsTest {
         says("VII. Each of two STONES is bunged (it DRINKS nothing: what it would goes on by LAW 1, 2, else is lost), or not.");
         int[] other = {5, 5, 10, 5};
         for (int law = 0; law <= 3; law++) {
-            DrinkingStones x = with(1, law, Told.stone(9, 1, 0) + Told.stone(60, 1, 1) + Told.rain(5, 1, 0));
+            DrinkingStones x = Told.with(1, law, Told.stone(9, 1, 0) + Told.stone(60, 1, 1) + Told.rain(5, 1, 0));
             eq("on another wall by law " + law, x.gets(1, 0, 0, 1), other[law]);
-            DrinkingStones y = with(1, law, Told.stone(9, 1, 0) + Told.stone(60, 1, 0) + Told.rain(5, 1, 0));
+            DrinkingStones y = Told.with(1, law, Told.stone(9, 1, 0) + Told.stone(60, 1, 0) + Told.rain(5, 1, 0));
             eq("on its wall by law " + law, y.gets(1, 0, 0, 1), law == 1 ? 10 : other[law]);
             eq("it drinks nothing by law " + law, x.gets(0, 1, 1, 0), 7);
             eq("nor the other by law " + law, x.gets(1, 0, 1, 1), 7);
@@ -615,13 +621,13 @@ public final class TermsTest {
         eq("7 are more than 5", x.rests(0, 1), 8);
         DrinkingStones either = Check.of(Told.choir(1, 0, 0) + Told.wall(9, 1) + Told.stone(9, 1, 0).repeat(2) + Told.rain(8, 1, 0));
         eq("one of the two", either.rests(0, 1), 6);
-        DrinkingStones even = with(1, 0, Told.stone(9, 1, 0) + Told.stone(9, 1, 0) + Told.rain(7, 1, 0));
+        DrinkingStones even = Told.with(1, 0, Told.stone(9, 1, 0) + Told.stone(9, 1, 0) + Told.rain(7, 1, 0));
         eq("as much by the other is rest", even.rests(0, 1), 15);
-        DrinkingStones less = with(1, 0, Told.stone(9, 1, 0) + Told.stone(9, 1, 0) + Told.rain(6, 1, 0));
+        DrinkingStones less = Told.with(1, 0, Told.stone(9, 1, 0) + Told.stone(9, 1, 0) + Told.rain(6, 1, 0));
         eq("7 are more than 6", less.rests(0, 1), 8);
-        DrinkingStones more = with(1, 0, Told.stone(9, 1, 0) + Told.stone(9, 1, 0) + Told.rain(8, 1, 0));
+        DrinkingStones more = Told.with(1, 0, Told.stone(9, 1, 0) + Told.stone(9, 1, 0) + Told.rain(8, 1, 0));
         eq("8 are more than 7", more.rests(0, 1), 1);
-        DrinkingStones first = with(1, 0, Told.stone(6, 1, 0) + Told.stone(9, 1, 0) + Told.rain(8, 1, 0));
+        DrinkingStones first = Told.with(1, 0, Told.stone(6, 1, 0) + Told.stone(9, 1, 0) + Told.rain(8, 1, 0));
         eq("the first alone", first.rests(0, 1), 2);
         eq("the other alone", first.rests(1, 0), 4);
     }

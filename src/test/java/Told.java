@@ -1,4 +1,4 @@
-/** Lines of a choir's text. */
+/** Lines of a choir's text, and objects that were told such. */
 final class Told {
     /** The choir of the tests under ../shared: its first wall falls in the third year. */
     static final String A = choir(4, 1, 5) + wall(20, 5) + wall(100, 10) + stone(10, 1, 0) + stone(20, 2, 0) + stone(30, 1, 1)
@@ -32,5 +32,23 @@ final class Told {
 
     static String tap(int stone, int n, int year) {
         return "tap " + stone + " " + n + " at " + year + ";";
+    }
+
+    static DrinkingStones a() {
+        return Check.of(A);
+    }
+
+    /** Two walls that bear all, then these lines. */
+    static DrinkingStones with(int years, int law, String behind) {
+        return Check.of(choir(years, law, 0) + STRONG + STRONG + behind);
+    }
+
+    /** As much as can be told, then this text in place of it. */
+    static DrinkingStones after(String text) {
+        DrinkingStones x = Check.of(GREATEST);
+        x.all(12);
+        Check.feed(x, text);
+        x.choir();
+        return x;
     }
 }

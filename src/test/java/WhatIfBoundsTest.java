@@ -63,30 +63,9 @@ public final class WhatIfBoundsTest {
         doc.beyond(call, count, -2, asked);
     }
 
-    private static DrinkingStones a() {
-        return Check.of(Told.A);
-    }
-
-    private static DrinkingStones none() {
-        return new DrinkingStones();
-    }
-
-    private static DrinkingStones with(int years, int law, String behind) {
-        return Check.of(Told.choir(years, law, 0) + STRONG + STRONG + behind);
-    }
-
-    /** A choir of more, then one of this text. */
-    private static DrinkingStones after(String text) {
-        DrinkingStones x = Check.of(Told.GREATEST);
-        x.all(12);
-        Check.feed(x, text);
-        x.choir();
-        return x;
-    }
-
     private static void noChoir(String call, ToLongFunction<DrinkingStones> asked) {
-        eq(call + ", no choir", asked.applyAsLong(none()), -2);
-        eq(call + ", none any more", asked.applyAsLong(after("")), -2);
+        eq(call + ", no choir", asked.applyAsLong(new DrinkingStones()), -2);
+        eq(call + ", none any more", asked.applyAsLong(Told.after("")), -2);
     }
 
     private interface IntOf {
@@ -94,11 +73,11 @@ public final class WhatIfBoundsTest {
     }
 
     private static void noSuch(String call, int count, long answer, IntOf asked) {
-        DrinkingStones x = a();
+        DrinkingStones x = Told.a();
         doc.beyond(call, count, answer, n -> asked.ask(x, n));
         eq(call + ", none in it", asked.ask(Check.of(Told.BARE), count == 4 ? 1 : 0), answer);
-        eq(call + ", no choir", asked.ask(none(), 0), answer);
-        eq(call + ", none any more", asked.ask(after(""), 0), answer);
+        eq(call + ", no choir", asked.ask(new DrinkingStones(), 0), answer);
+        eq(call + ", none any more", asked.ask(Told.after(""), 0), answer);
     }
 
     // ---- save ----
@@ -112,16 +91,16 @@ public final class WhatIfBoundsTest {
     private static void p43() {
         promise(43);
         says("SAVE (IV): the fewest STONES that must let out all in a YEAR (ahead of the last) so that all WALLS stand in the last YEAR.");
-        eq("two", a().save(2), 2);
+        eq("two", Told.a().save(2), 2);
         eq("all six", Check.of(ALL_SIX).save(1), 6);
         eq("one in place of two", Check.of(ONE_FOR_TWO).save(1), 1);
-        eq("none need, in the first", with(2, 0, Told.stone(9, 1, 0) + Told.rain(9, 1, 0)).save(0), 0);
-        eq("none need, in the last but one", with(12, 0, Told.stone(9, 1, 0) + Told.rain(9, 1, 0)).save(11), 0);
+        eq("none need, in the first", Told.with(2, 0, Told.stone(9, 1, 0) + Told.rain(9, 1, 0)).save(0), 0);
+        eq("none need, in the last but one", Told.with(12, 0, Told.stone(9, 1, 0) + Told.rain(9, 1, 0)).save(11), 0);
         eq("no walls, no stones", Check.of(Told.BARE).save(0), 0);
         says("NONE: by none;");
         eq("too early", Check.of(ALL_SIX).save(0), -1);
         eq("too late", Check.of(ALL_SIX).save(2), -1);
-        eq("fallen", a().save(3), -1);
+        eq("fallen", Told.a().save(3), -1);
         says("-2: there is none such.");
         noSuch("save", 4, -2, DrinkingStones::save);
         eq("the last", Check.of(ALL_SIX).save(3), -2);
@@ -130,7 +109,7 @@ public final class WhatIfBoundsTest {
     private static void p44() {
         promise(44);
         says("The least set of so few, as bits.");
-        eq("two", a().saves(2), 3);
+        eq("two", Told.a().saves(2), 3);
         eq("all six", Check.of(ALL_SIX).saves(1), 63);
         eq("4, not 3", Check.of(ONE_FOR_TWO).saves(1), 4);
         eq("none", Check.of(Told.BARE).saves(0), 0);
@@ -139,7 +118,7 @@ public final class WhatIfBoundsTest {
         eq("of the second wall", Check.of(Told.choir(2, 0, 0) + Told.wall(300, 1) + Told.wall(9, 1) + either).saves(1), 4);
         says("NONE, -2 likewise.");
         eq("too early", Check.of(ALL_SIX).saves(0), -1);
-        eq("fallen", a().saves(3), -1);
+        eq("fallen", Told.a().saves(3), -1);
         noSuch("saves", 4, -2, DrinkingStones::saves);
         eq("the last", Check.of(ALL_SIX).saves(3), -2);
     }
@@ -147,9 +126,9 @@ public final class WhatIfBoundsTest {
     private static void p45() {
         promise(45);
         says("The latest YEAR (ahead of the last) in which some set (the empty one, too) does it.");
-        eq("the third", a().latest(), 2);
+        eq("the third", Told.a().latest(), 2);
         eq("all six", Check.of(ALL_SIX).latest(), 1);
-        eq("the empty one", with(12, 0, Told.stone(9, 1, 0) + Told.rain(9, 1, 0)).latest(), 11);
+        eq("the empty one", Told.with(12, 0, Told.stone(9, 1, 0) + Told.rain(9, 1, 0)).latest(), 11);
         eq("of one year", Check.of(Told.BARE).latest(), 0);
         says("NONE: in none;");
         eq("at once", Check.of(Told.choir(12, 0, 0) + Told.wall(0, 1) + Told.stone(9, 1, 0) + Told.rain(1, 1, 0)).latest(), -1);
@@ -165,11 +144,17 @@ public final class WhatIfBoundsTest {
         String two = Told.choir(1, 0, 0) + Told.wall(5, 1) + Told.wall(8, 1) + Told.stone(60, 1, 0) + Told.stone(60, 1, 1);
         eq("most: one without the first, two without the second", Check.of(two + Told.rain(4, 1, 0) + Told.rain(6, 1, 0)).blame(), 1);
         eq("the first of several", Check.of(two + Told.rain(3, 1, 11) + Told.rain(5, 1, 0).repeat(2)).blame(), 1);
+        eq("the first", Check.of(two + Told.rain(9, 1, 0)).blame(), 0);
         eq("the eighth", Check.of(two + Told.rain(1, 1, 11).repeat(7) + Told.rain(9, 1, 0)).blame(), 7);
         says("NONE: none;");
-        eq("all stand", with(1, 0, Told.stone(9, 1, 0) + Told.rain(9, 1, 0)).blame(), -1);
+        eq("all stand", Told.with(1, 0, Told.stone(9, 1, 0) + Told.rain(9, 1, 0)).blame(), -1);
         eq("by none alone", Check.of(two + Told.rain(20, 1, 0).repeat(2)).blame(), -1);
         eq("no rains", Check.of(two).blame(), -1);
+        // without the first rain the first wall stands until what comes on by law 2 brings down all
+        DrinkingStones fewer = Check.of(Told.choir(2, 2, 0) + Told.wall(4, 1) + Told.wall(30, 1) + Told.wall(30, 1) + Told.stone(5, 4, 0) + Told.stone(60, 1, 1)
+                + Told.stone(60, 1, 2) + Told.rain(2, 1, 0) + Told.rain(20, 1, 1));
+        eq("two stand", fewer.stands(2), 6);
+        eq("fewer without", fewer.blame(), -1);
         DrinkingStones act = Check.of(two);
         act.rains(9, 1, 0);
         eq("one of an act", act.stands(1) + 10 * act.blame(), -10);
@@ -188,9 +173,14 @@ public final class WhatIfBoundsTest {
         eq("the sixth", Check.of(two + rain + Told.tap(0, 1, 11).repeat(5) + Told.tap(0, 5, 0)).needed(), 5);
         fewest();
         says("NONE, -2 likewise.");
-        eq("none is needed", a().needed(), -1);
+        eq("none is needed", Told.a().needed(), -1);
         eq("each by itself is not", Check.of(two + rain + Told.tap(0, 5, 0) + Told.tap(2, 5, 0)).needed(), -1);
         eq("no taps", Check.of(two + rain).needed(), -1);
+        // by the tap the first wall stands until what comes on by law 2 brings down all
+        DrinkingStones more = Check.of(Told.choir(2, 2, 0) + Told.wall(4, 1) + Told.wall(30, 1) + Told.wall(30, 1) + Told.stone(5, 4, 0) + Told.stone(60, 1, 1)
+                + Told.stone(60, 1, 2) + Told.rain(2, 1, 0) + Told.rain(20, 1, 1) + Told.tap(0, 1, 0));
+        eq("none stands", more.stands(2), 0);
+        eq("more without", more.needed(), -1);
         DrinkingStones act = Check.of(two + rain);
         act.taps(0, 5, 0);
         eq("one of an act", act.stands(1) + 10 * act.needed(), 3 - 10);
@@ -214,8 +204,8 @@ public final class WhatIfBoundsTest {
     private static void p48() {
         promise(48);
         says("The least that a WALL must bear (0 .. 300) so that it stands in the last YEAR.");
-        eq("as told it falls", a().needs(0), 26);
-        eq("less than told", a().needs(1), 5);
+        eq("as told it falls", Told.a().needs(0), 26);
+        eq("less than told", Told.a().needs(1), 5);
         eq("0: no load", Check.of(Told.choir(1, 0, 0) + Told.wall(9, 1)).needs(0), 0);
         eq("0: it gives more", Check.of(Told.choir(1, 0, 0) + Told.wall(9, 2) + Told.stone(9, 1, 0) + Told.rain(4, 1, 0)).needs(0), 0);
         eq("1: it gives no more", Check.of(Told.choir(1, 0, 0) + Told.wall(9, 2) + Told.stone(9, 1, 0) + Told.rain(5, 1, 0)).needs(0), 1);
@@ -227,7 +217,7 @@ public final class WhatIfBoundsTest {
         eq("305 on it", Check.of(five.replace("G", "2") + Told.stone(5, 4, 0) + Told.rain(20, 1, 0)).needs(0), -1);
         says("-2: there is none such.");
         noSuch("needs", 2, -2, DrinkingStones::needs);
-        DrinkingStones x = a();
+        DrinkingStones x = Told.a();
         x.needs(0);
         eq("nothing is otherwise", x.wall(0, 0), 20);
     }
@@ -235,13 +225,14 @@ public final class WhatIfBoundsTest {
     private static void p49() {
         promise(49);
         says("The STONE that, had it no room (it were bunged, VII), would make LOADS of all WALLS in the last YEAR least, together, the first of several, if less than now.");
-        eq("the third", a().heavy(), 2);
-        eq("the first of several", with(1, 0, Told.stone(4, 1, 0) + Told.stone(9, 1, 0).repeat(2) + Told.rain(5, 1, 0)).heavy(), 1);
-        eq("the sixth", with(1, 0, Told.stone(4, 1, 0).repeat(5) + Told.stone(9, 1, 1) + Told.rain(5, 1, 0)).heavy(), 5);
+        eq("the third", Told.a().heavy(), 2);
+        eq("the first", Told.with(1, 0, Told.stone(9, 1, 0) + Told.stone(4, 1, 0) + Told.rain(5, 1, 0)).heavy(), 0);
+        eq("the first of several", Told.with(1, 0, Told.stone(4, 1, 0) + Told.stone(9, 1, 0).repeat(2) + Told.rain(5, 1, 0)).heavy(), 1);
+        eq("the sixth", Told.with(1, 0, Told.stone(4, 1, 0).repeat(5) + Told.stone(9, 1, 1) + Told.rain(5, 1, 0)).heavy(), 5);
         // by law 2 what the first would drink goes on to the second, which has room for it
-        eq("what goes on", with(1, 2, Told.stone(9, 1, 0) + Told.stone(60, 1, 1) + Told.rain(5, 1, 0)).heavy(), 1);
+        eq("what goes on", Told.with(1, 2, Told.stone(9, 1, 0) + Told.stone(60, 1, 1) + Told.rain(5, 1, 0)).heavy(), 1);
         says("NONE: none;");
-        eq("no water", with(1, 0, Told.stone(9, 1, 0)).heavy(), -1);
+        eq("no water", Told.with(1, 0, Told.stone(9, 1, 0)).heavy(), -1);
         eq("no stones", Check.of(Told.BARE).heavy(), -1);
         // its wall falls with it: without it there is more
         eq("more without", Check.of(Told.choir(1, 0, 0) + Told.wall(9, 1) + Told.stone(9, 1, 0).repeat(2) + Told.rain(5, 1, 0)).heavy(), -1);
@@ -256,28 +247,28 @@ public final class WhatIfBoundsTest {
     }
 
     private static void refusedSlotAndStone(String call, Seen asked) {
-        DrinkingStones x = a();
+        DrinkingStones x = Told.a();
         for (int slot = 0; slot <= 3; slot++) {
             x.row(slot, 0, 3);
         }
         beyond(call + ", slot", 4, slot -> asked.ask(x, slot, 0));
         beyond(call + ", stone", 3, stone -> asked.ask(x, 0, stone));
-        eq(call + ", no stone, nothing in it", asked.ask(a(), 0, 3), -2);
-        eq(call + ", no slot, no stone", asked.ask(a(), 4, 3), -2);
-        eq(call + ", no choir", asked.ask(none(), 0, 0), -2);
+        eq(call + ", no stone, nothing in it", asked.ask(Told.a(), 0, 3), -2);
+        eq(call + ", no slot, no stone", asked.ask(Told.a(), 4, 3), -2);
+        eq(call + ", no choir", asked.ask(new DrinkingStones(), 0, 0), -2);
         eq(call + ", no stones", asked.ask(Check.of(Told.BARE), 0, 0), -2);
         eq(call + ", a row of a choir that was", asked.ask(rowThenNoChoir(), 0, 0), -2);
     }
 
     private static DrinkingStones rowThenNoChoir() {
-        DrinkingStones x = a();
+        DrinkingStones x = Told.a();
         x.row(0, 0, 3);
         x.choir();
         return x;
     }
 
     private static void refusedNumbers(String call, IntOf asked) {
-        DrinkingStones x = a();
+        DrinkingStones x = Told.a();
         int[][] bad = {{3, 0, 0}, {-1, 0, 0}, {MAX, 0, 0}, {0, 5, 0}, {0, -1, 0}, {0, MIN, 0}, {0, 0, 61}, {0, 0, -1}, {0, 0, MAX},
             {0, 0, 0, 0, 9, 0}, {0, 0, 0, 0, 0, 61}, {0, 0, 0, 6, 0, 0}};
         for (int[] row : bad) {
@@ -304,7 +295,7 @@ public final class WhatIfBoundsTest {
     }
 
     private static void nothingIn(String call, IntOf asked) {
-        DrinkingStones x = a();
+        DrinkingStones x = Told.a();
         for (int slot = 0; slot <= 3; slot++) {
             eq(call + ", slot " + slot, asked.ask(x, slot), -6);
         }
@@ -315,7 +306,7 @@ public final class WhatIfBoundsTest {
     private static void p50() {
         promise(50);
         says("SEEN (V): how many rooms a STONE can have had by a SLOT's row.");
-        DrinkingStones x = a();
+        DrinkingStones x = Told.a();
         Check.row(x, 0, 0, 1, 6);
         eq("6 and more", x.rooms(0, 0), 55);
         Check.row(x, 0, 0, 1, 6, 0, 2, 10);
@@ -341,7 +332,7 @@ public final class WhatIfBoundsTest {
     private static void p51to52() {
         promise(51);
         says("The least of these.");
-        DrinkingStones x = a();
+        DrinkingStones x = Told.a();
         Check.row(x, 0, 0, 1, 6);
         eq("6", x.least(0, 0), 6);
         Check.row(x, 1, 0, 0, 0);
@@ -369,18 +360,23 @@ public final class WhatIfBoundsTest {
     private static void p53() {
         promise(53);
         says("The YEAR of which to know the STONE's MEASURES leaves fewest of these at worst, if fewer than now, the first of several.");
-        DrinkingStones x = a();
+        DrinkingStones x = Told.a();
         Check.row(x, 0, 0, 1, 6);
         eq("the second", x.ask(0, 0), 2);
         // 3 and 7 more in all: rooms up to 3 are known in each year, up to 10 in the last two
-        DrinkingStones y = with(3, 0, Told.stone(9, 1, 0) + Told.rain(3, 1, 0) + Told.rain(7, 1, 1));
+        DrinkingStones y = Told.with(3, 0, Told.stone(9, 1, 0) + Told.rain(3, 1, 0) + Told.rain(7, 1, 1));
         y.row(0, 0, 0);
         eq("the first of several", y.ask(0, 0), 2);
-        DrinkingStones last = with(12, 0, Told.stone(9, 1, 0) + Told.rain(20, 1, 11));
+        DrinkingStones last = Told.with(12, 0, Told.stone(9, 1, 0) + Told.rain(20, 1, 11));
         last.row(0, 0, 0);
         eq("the last", last.ask(0, 0), 12);
+        // with room for 10 and more its wall falls: 51 rooms of which it is empty
+        DrinkingStones fell = Check.of(Told.choir(3, 0, 0) + Told.wall(9, 1) + Told.stone(9, 1, 0) + Told.rain(20, 1, 1));
+        fell.row(0, 0, 0);
+        eq("empty by most", fell.ask(0, 0), 2);
+        eq("empty by most", fell.leaves(0, 0), 51);
         says("NONE: none;");
-        DrinkingStones dry = with(12, 0, Told.stone(9, 1, 0));
+        DrinkingStones dry = Told.with(12, 0, Told.stone(9, 1, 0));
         dry.row(0, 0, 0);
         eq("as many by each", dry.ask(0, 0), -1);
         Check.row(x, 0, 0, 1, 5);
@@ -396,13 +392,13 @@ public final class WhatIfBoundsTest {
     private static void p54() {
         promise(54);
         says("How many it leaves at worst (as now without).");
-        DrinkingStones x = a();
+        DrinkingStones x = Told.a();
         Check.row(x, 0, 0, 1, 6);
         eq("14 and more", x.leaves(0, 0), 47);
-        DrinkingStones last = with(12, 0, Told.stone(9, 4, 0) + Told.rain(20, 1, 11));
+        DrinkingStones last = Told.with(12, 0, Told.stone(9, 4, 0) + Told.rain(20, 1, 11));
         last.row(0, 0, 0);
         eq("one", last.leaves(0, 0), 1);
-        DrinkingStones dry = with(12, 0, Told.stone(9, 1, 0));
+        DrinkingStones dry = Told.with(12, 0, Told.stone(9, 1, 0));
         dry.row(0, 0, 0);
         eq("as now", dry.leaves(0, 0), 60);
         Check.row(x, 0, 0, 1, 5);
@@ -418,7 +414,7 @@ public final class WhatIfBoundsTest {
     private static void p55() {
         promise(55);
         says("LAWS (0 .. 3) by which it is as such a row tells, as bits.");
-        DrinkingStones x = with(1, 0, Told.stone(2, 1, 0) + Told.stone(60, 1, 1) + Told.stone(60, 1, 0) + Told.rain(3, 1, 0) + Told.rain(1, 2, 0));
+        DrinkingStones x = Told.with(1, 0, Told.stone(2, 1, 0) + Told.stone(60, 1, 1) + Told.stone(60, 1, 0) + Told.rain(3, 1, 0) + Told.rain(1, 2, 0));
         // by law 1 two come on to the third, by law 2 to the second
         Check.row(x, 0, 0, 0, 0);
         eq("all", x.laws(0), 15);
@@ -434,7 +430,7 @@ public final class WhatIfBoundsTest {
         eq("nothing seen", x.laws(1), 15);
         eq("law as told yet", x.count(1), 0);
         says("-2 (STONE aside; no CHOIR), -6 likewise.");
-        DrinkingStones y = a();
+        DrinkingStones y = Told.a();
         for (int slot = 0; slot <= 3; slot++) {
             y.row(slot, 0, 3);
         }
@@ -457,17 +453,17 @@ public final class WhatIfBoundsTest {
         says("MEASURES in all STONES in the last YEAR by a LAW in place of the one told.");
         int[] by = {19, 19, 30, 19};
         for (int law = 0; law <= 3; law++) {
-            eq("by " + law, a().by(law), by[law]);
+            eq("by " + law, Told.a().by(law), by[law]);
         }
         eq("no stones", Check.of(Told.BARE).by(3), 0);
-        DrinkingStones x = a();
+        DrinkingStones x = Told.a();
         x.by(2);
         eq("the one told", x.count(1), 1);
         eq("as told", x.all(4), 19);
         says("-2: there is none such (0 .. 3), no CHOIR.");
         beyond("by", 4, x::by);
         for (int law = -1; law <= 4; law++) {
-            eq("no choir", none().by(law), -2);
+            eq("no choir", new DrinkingStones().by(law), -2);
         }
         noChoir("by", o -> o.by(0));
     }
@@ -493,14 +489,14 @@ public final class WhatIfBoundsTest {
         says("What a set of STONES (bits) is worth (VI).");
         int[] worth = {0, 10, 20, 0, 19, 29, 39, 19};
         for (int set = 0; set < 8; set++) {
-            eq("worth " + set, a().worth(set), worth[set]);
+            eq("worth " + set, Told.a().worth(set), worth[set]);
         }
         eq("no stones", Check.of(Told.BARE).worth(0), 0);
-        DrinkingStones six = with(1, 0, Told.stone(60, 4, 0).repeat(3) + Told.stone(60, 4, 1).repeat(3) + Told.rain(20, 1, 0));
+        DrinkingStones six = Told.with(1, 0, Told.stone(60, 4, 0).repeat(3) + Told.stone(60, 4, 1).repeat(3) + Told.rain(20, 1, 0));
         eq("all six", six.worth(63), 360);
         eq("the sixth", six.worth(32), 60);
         says("-2: there is no such set, no CHOIR.");
-        DrinkingStones x = a();
+        DrinkingStones x = Told.a();
         beyond("worth", 8, x::worth);
         x.share(0, 0);
         beyond("worth, when shares were asked", 8, x::worth);
@@ -513,14 +509,14 @@ public final class WhatIfBoundsTest {
         promise(59);
         says("SHARE (VI) of a STONE, above (what 0; below 0, too), below (1).");
         int[][] share = {{-5, 1}, {5, 1}, {19, 1}};
-        DrinkingStones x = a();
+        DrinkingStones x = Told.a();
         for (int s = 0; s < 3; s++) {
             eq("above " + s, x.share(s, 0), share[s][0]);
             eq("below " + s, x.share(s, 1), share[s][1]);
         }
-        DrinkingStones half = with(1, 2, Told.stone(4, 1, 0) + Told.stone(20, 1, 0) + Told.rain(5, 1, 0));
+        DrinkingStones half = Told.with(1, 2, Told.stone(4, 1, 0) + Told.stone(20, 1, 0) + Told.rain(5, 1, 0));
         eq("9 / 2", 10 * half.share(0, 0) + half.share(0, 1), 92);
-        DrinkingStones none = with(1, 0, Told.stone(4, 1, 0));
+        DrinkingStones none = Told.with(1, 0, Told.stone(4, 1, 0));
         eq("0 / 1", 10 * none.share(0, 0) + none.share(0, 1), 1);
         // whoever comes last of six brings down the wall with 5 on it: 5 / 6 of 1 less 5 / 6
         DrinkingStones six = Check.of(Told.choir(1, 0, 0) + Told.wall(5, 1) + Told.stone(1, 1, 0).repeat(6) + Told.rain(1, 1, 0));
@@ -539,39 +535,40 @@ public final class WhatIfBoundsTest {
         eq("by itself", sixth.share(5, 0), 1);
         says("-1,000,000: there are none such.");
         noSuch("share", 3, -1000000, (o, s) -> o.share(s, 0));
-        DrinkingStones y = a();
+        DrinkingStones y = Told.a();
         doc.beyond("what", 2, -1000000, what -> y.share(0, what));
     }
 
     private static void p60() {
         promise(60);
         says("GAME (VII): pairs of choices of two STONES at REST, as bits: 1 neither is bunged, 2 the first one is, 4 the other one, 8 both.");
-        eq("either", a().rests(0, 1), 6);
-        eq("of other walls", a().rests(0, 2), 2);
-        eq("of other walls, turned", a().rests(2, 0), 4);
-        eq("neither", with(1, 0, Told.stone(9, 1, 0).repeat(2) + Told.rain(8, 1, 0)).rests(0, 1), 1);
-        eq("both", with(1, 0, Told.stone(9, 1, 0).repeat(2) + Told.rain(6, 1, 0)).rests(1, 0), 8);
-        eq("all", with(1, 0, Told.stone(9, 1, 0).repeat(2) + Told.rain(7, 1, 0)).rests(0, 1), 15);
+        eq("either", Told.a().rests(0, 1), 6);
+        eq("of other walls", Told.a().rests(0, 2), 2);
+        eq("of other walls, turned", Told.a().rests(2, 0), 4);
+        eq("neither", Told.with(1, 0, Told.stone(9, 1, 0).repeat(2) + Told.rain(8, 1, 0)).rests(0, 1), 1);
+        eq("both", Told.with(1, 0, Told.stone(9, 1, 0).repeat(2) + Told.rain(6, 1, 0)).rests(1, 0), 8);
+        eq("all", Told.with(1, 0, Told.stone(9, 1, 0).repeat(2) + Told.rain(7, 1, 0)).rests(0, 1), 15);
         says("-2: there are none such, one twice.");
         noSuch("rests", 3, -2, (o, s) -> o.rests(s, 1));
         noSuch("rests, other", 3, -2, (o, s) -> o.rests(1, s));
         for (int s = 0; s < 3; s++) {
-            eq("twice " + s, a().rests(s, s), -2);
+            eq("twice " + s, Told.a().rests(s, s), -2);
         }
-        eq("one stone", with(1, 0, Told.stone(9, 1, 0)).rests(0, 0), -2);
+        eq("one stone", Told.with(1, 0, Told.stone(9, 1, 0)).rests(0, 0), -2);
     }
 
     private static void p61() {
         promise(61);
         says("What the first of two GETS by the choices (1 it is bunged, 0 not; below 0, too).");
-        DrinkingStones x = a();
+        DrinkingStones x = Told.a();
         eq("neither", x.gets(0, 1, 0, 0), -10);
         eq("the first", x.gets(0, 1, 1, 0), 7);
         eq("the other", x.gets(0, 1, 0, 1), 10);
         eq("both", x.gets(0, 1, 1, 1), 7);
         eq("turned", x.gets(1, 0, 0, 1), 20);
+        eq("when another wall fell", Told.a().gets(2, 0, 0, 0), 19);
         eq("bunged, and its wall fell", Check.of(Told.choir(1, 0, 0) + Told.wall(9, 1) + Told.stone(9, 1, 0).repeat(3) + Told.rain(5, 1, 0)).gets(2, 0, 1, 0), -3);
-        eq("as many as can be", with(1, 0, Told.stone(60, 4, 0).repeat(2) + Told.rain(20, 1, 0)).gets(0, 1, 0, 0), 60);
+        eq("as many as can be", Told.with(1, 0, Told.stone(60, 4, 0).repeat(2) + Told.rain(20, 1, 0)).gets(0, 1, 0, 0), 60);
         says("-1,000: there are none such, one twice.");
         noSuch("gets", 3, -1000, (o, s) -> o.gets(s, 1, 0, 0));
         noSuch("gets, other", 3, -1000, (o, s) -> o.gets(1, s, 0, 0));
@@ -587,8 +584,8 @@ public final class WhatIfBoundsTest {
     private static void p62() {
         promise(62);
         says("CHANCE (VIII): that a WALL stands in the last YEAR, above, below.");
-        eq("5 / 8", 10 * a().chance(0, 0) + a().chance(0, 1), 58);
-        eq("1 / 1", 10 * a().chance(1, 0) + a().chance(1, 1), 11);
+        eq("5 / 8", 10 * Told.a().chance(0, 0) + Told.a().chance(0, 1), 58);
+        eq("1 / 1", 10 * Told.a().chance(1, 0) + Told.a().chance(1, 1), 11);
         String eight = Told.wall(0, 1) + Told.stone(9, 1, 0) + Told.rain(1, 1, 0).repeat(8);
         DrinkingStones rare = Check.of(Told.choir(1, 0, 9) + eight);
         eq("1 of", rare.chance(0, 0), 1);
@@ -602,7 +599,7 @@ public final class WhatIfBoundsTest {
         eq("1 / 1", 10 * sure.chance(0, 0) + sure.chance(0, 1), 11);
         says("-2: there are none such.");
         noSuch("chance", 2, -2, (o, w) -> o.chance(w, 0));
-        DrinkingStones x = a();
+        DrinkingStones x = Told.a();
         beyond("what", 2, what -> x.chance(0, what));
     }
 
@@ -611,6 +608,8 @@ public final class WhatIfBoundsTest {
         says("The mean of MEASURES in all STONES in the last YEAR, above, below.");
         DrinkingStones x = Check.of(Told.choir(1, 0, 3) + STRONG + Told.stone(9, 1, 0) + Told.rain(5, 1, 0));
         eq("3 / 2", 10 * x.mean(0) + x.mean(1), 32);
+        // of all eight ways: 0, 20, 28, 20, 14, 40, 13, 19
+        eq("77 / 4", 10 * Told.a().mean(0) + Told.a().mean(1), 774);
         DrinkingStones most = Check.of(Told.choir(1, 0, 10) + STRONG + Told.stone(60, 4, 0).repeat(6) + Told.rain(20, 1, 0).repeat(8));
         eq("360 / 1", 10 * most.mean(0) + most.mean(1), 3601);
         eq("0 / 1", 10 * Check.of(Told.BARE).mean(0) + Check.of(Told.BARE).mean(1), 1);
@@ -631,7 +630,7 @@ public final class WhatIfBoundsTest {
     private static void p64() {
         promise(64);
         says("A RAIN more of n (1 .. 20) of a SORT in a YEAR (ahead of the last): MEASURES in all STONES in the last one then.");
-        DrinkingStones x = with(12, 0, Told.stone(60, 1, 0).repeat(2));
+        DrinkingStones x = Told.with(12, 0, Told.stone(60, 1, 0).repeat(2));
         eq("1 of 1 at 0", x.rains(1, 1, 0), 2);
         eq("20 of 5 at 11", x.rains(20, 5, 11), 42);
         eq("in its year", x.has(0, 11), 1);
@@ -645,7 +644,7 @@ public final class WhatIfBoundsTest {
         eq("the last of one", Check.of(Told.BARE).rains(1, 1, 1), -2);
         noChoir("rains", o -> o.rains(1, 1, 0));
         says("-5: there were 30 acts.");
-        DrinkingStones y = with(1, 0, Told.stone(60, 1, 0));
+        DrinkingStones y = Told.with(1, 0, Told.stone(60, 1, 0));
         for (int i = 1; i <= 30; i++) {
             eq("act " + i, y.rains(1, 1, 0), i);
         }
@@ -661,7 +660,7 @@ public final class WhatIfBoundsTest {
     private static void p65() {
         promise(65);
         says("A TAP more of a STONE, n (1 .. 60), in a YEAR (ahead of the last): how many MEASURES are HEARD in that YEAR then.");
-        DrinkingStones x = with(12, 0, Told.stone(60, 4, 0) + Told.stone(60, 1, 0) + Told.rain(15, 1, 0) + Told.tap(1, 2, 0));
+        DrinkingStones x = Told.with(12, 0, Told.stone(60, 4, 0) + Told.stone(60, 1, 0) + Told.rain(15, 1, 0) + Told.tap(1, 2, 0));
         eq("1 at 0, and those told", x.taps(0, 1, 0), 3);
         eq("60 at 11", x.taps(0, 60, 11), 59);
         eq("none any more", x.taps(0, 1, 11), 59);
@@ -674,7 +673,7 @@ public final class WhatIfBoundsTest {
         eq("none of these", x.count(7), 4);
         eq("no stones", Check.of(Told.BARE).taps(0, 1, 0), -2);
         noChoir("taps", o -> o.taps(0, 1, 0));
-        DrinkingStones y = with(1, 0, Told.stone(60, 4, 0) + Told.rain(10, 1, 0));
+        DrinkingStones y = Told.with(1, 0, Told.stone(60, 4, 0) + Told.rain(10, 1, 0));
         for (int i = 1; i <= 30; i++) {
             eq("act " + i, y.taps(0, 1, 0), i);
         }
@@ -687,7 +686,7 @@ public final class WhatIfBoundsTest {
     private static void p66() {
         promise(66);
         says("The latest act is taken back: how many there are.");
-        DrinkingStones x = a();
+        DrinkingStones x = Told.a();
         x.rains(2, 3, 3);
         x.taps(2, 5, 3);
         eq("one is left", x.undo(), 1);
@@ -701,7 +700,7 @@ public final class WhatIfBoundsTest {
         says("-2: there is no CHOIR;");
         noChoir("undo", DrinkingStones::undo);
         says("-5: there is none.");
-        eq("none", a().undo(), -5);
+        eq("none", Told.a().undo(), -5);
         x.anew();
         eq("none any more", x.undo(), -5);
         eq("none by it", x.count(7), 0);
@@ -710,7 +709,7 @@ public final class WhatIfBoundsTest {
     private static void p67() {
         promise(67);
         says("All are: how many there were.");
-        DrinkingStones x = a();
+        DrinkingStones x = Told.a();
         eq("none", x.anew(), 0);
         for (int i = 0; i < 30; i++) {
             x.rains(1, 1, 3);
@@ -786,7 +785,7 @@ public final class WhatIfBoundsTest {
     private static void p70() {
         promise(70);
         says("bears of a WALL is n (0 .. 300) from now on: what it was.");
-        DrinkingStones x = a();
+        DrinkingStones x = Told.a();
         eq("26", x.rate(0, 26), 20);
         eq("from now on", x.wall(0, 0), 26);
         eq("it stands", x.stands(4), 3);
@@ -799,12 +798,12 @@ public final class WhatIfBoundsTest {
         x.anew();
         eq("not taken back with acts", x.wall(0, 0), 0);
         says("-2: there are none such;");
-        DrinkingStones y = a();
+        DrinkingStones y = Told.a();
         beyond("n", 301, n -> y.rate(0, n));
         eq("as it was", y.wall(0, 0), 20);
         noSuch("rate", 2, -2, (o, w) -> o.rate(w, 0));
         says("-5: there are acts that are not taken back.");
-        DrinkingStones z = a();
+        DrinkingStones z = Told.a();
         z.taps(0, 1, 0);
         eq("a tap", z.rate(0, 5), -5);
         eq("as it was", z.wall(0, 0), 20);
@@ -841,7 +840,7 @@ public final class WhatIfBoundsTest {
         }
         says("NONE for others.");
         doc.beyond("count", 11, -1, x::count);
-        doc.beyond("count without a choir", 11, -1, none()::count);
+        doc.beyond("count without a choir", 11, -1, new DrinkingStones()::count);
     }
 
     // ---- images ----
@@ -849,7 +848,7 @@ public final class WhatIfBoundsTest {
     private static void p72() {
         promise(72);
         says("IMAGE k (0 .. 2) keeps the CHOIR, and acts: 0.");
-        DrinkingStones x = a();
+        DrinkingStones x = Told.a();
         for (int k = 0; k <= 2; k++) {
             eq("image of " + k, x.image(k), 0);
             x.rains(1, 1, 3);
@@ -865,13 +864,13 @@ public final class WhatIfBoundsTest {
         eq("the later one", x.wall(0, 0), 7);
         says("-2: no such k.");
         beyond("image", 3, x::image);
-        beyond("image without a choir", 3, none()::image);
+        beyond("image without a choir", 3, new DrinkingStones()::image);
     }
 
     private static void p73() {
         promise(73);
         says("It is as IMAGE k has it: 0.");
-        DrinkingStones x = a();
+        DrinkingStones x = Told.a();
         x.rains(2, 3, 3);
         eq("image", x.image(2), 0);
         Check.feed(x, Told.GREATEST);
@@ -894,7 +893,7 @@ public final class WhatIfBoundsTest {
         eq("the other", x.back(1), 0);
         eq("lines", x.count(8), 24);
         eq("stones", x.stone(5, 0), 60);
-        DrinkingStones y = none();
+        DrinkingStones y = new DrinkingStones();
         y.image(0);
         Check.feed(y, Told.A);
         y.choir();
@@ -903,12 +902,12 @@ public final class WhatIfBoundsTest {
         says("-2: no such k;");
         beyond("back", 3, x::back);
         says("-6: it has nothing.");
-        DrinkingStones z = a();
+        DrinkingStones z = Told.a();
         z.image(1);
         eq("0", z.back(0), -6);
         eq("2", z.back(2), -6);
         eq("as it was", z.all(4), 19);
-        eq("without a choir", none().back(0), -6);
+        eq("without a choir", new DrinkingStones().back(0), -6);
     }
 
     // ---- slots ----
@@ -916,7 +915,7 @@ public final class WhatIfBoundsTest {
     private static void p74() {
         promise(74);
         says("A SLOT (0 .. 3) has a row of n numbers of a WIDTH, all 0 (in place of another one): 0.");
-        DrinkingStones x = a();
+        DrinkingStones x = Told.a();
         for (int slot = 0; slot <= 3; slot++) {
             for (int width = 0; width <= 3; width++) {
                 eq("row of 60", x.row(slot, width, 60), 0);
@@ -947,7 +946,7 @@ public final class WhatIfBoundsTest {
         for (int n : new int[] {-1, -60, MIN}) {
             eq("row of " + n, x.row(1, 0, n), -3);
             eq("it stays", x.rooms(1, 0), 55);
-            DrinkingStones y = none();
+            DrinkingStones y = new DrinkingStones();
             eq("row of " + n, y.row(1, 0, n), -3);
             eq("nothing yet", y.count(10), 0);
         }
@@ -956,7 +955,7 @@ public final class WhatIfBoundsTest {
     private static void p75() {
         promise(75);
         says("Number i of the SLOT's row is v, cut to its WIDTH: 0.");
-        DrinkingStones x = a();
+        DrinkingStones x = Told.a();
         long[] all = {256, 65536, 4294967296L, 0};
         for (int width = 0; width <= 3; width++) {
             x.row(width, width, 6);
@@ -979,7 +978,7 @@ public final class WhatIfBoundsTest {
         says("-2: there is no such SLOT;");
         beyond("slot", 4, slot -> x.write(slot, 0, 0));
         says("-6: it has nothing;");
-        DrinkingStones y = a();
+        DrinkingStones y = Told.a();
         for (int slot = 0; slot <= 3; slot++) {
             eq("slot " + slot, y.write(slot, 0, 0), -6);
             eq("slot " + slot + ", no such number", y.write(slot, -1, 0), -6);
@@ -997,7 +996,7 @@ public final class WhatIfBoundsTest {
     private static void p76() {
         promise(76);
         says("So many numbers of a SLOT's row, from one on, are put to another one's (or its own), from one on, as they were: 0.");
-        DrinkingStones x = a();
+        DrinkingStones x = Told.a();
         Check.row(x, 0, 9, 0, 1, 6);
         Check.row(x, 1, 0, 0, 0);
         eq("three", x.paste(0, 1, 1, 0, 3), 0);
@@ -1023,7 +1022,7 @@ public final class WhatIfBoundsTest {
         beyond("slot", 4, slot -> x.paste(slot, 0, 1, 0, 1));
         beyond("to", 4, to -> x.paste(1, 0, to, 0, 1));
         says("-6: one has nothing;");
-        DrinkingStones y = a();
+        DrinkingStones y = Told.a();
         Check.row(y, 0, 0, 1, 6);
         eq("the first", y.paste(1, 0, 0, 0, 1), -6);
         eq("the other", y.paste(0, 0, 1, 0, 1), -6);
@@ -1041,7 +1040,7 @@ public final class WhatIfBoundsTest {
             }
         }
         says("-7, and nothing happens: some are beyond their rows, or a place or n is below 0.");
-        DrinkingStones z = a();
+        DrinkingStones z = Told.a();
         Check.row(z, 0, 9, 9, 9, 9, 9, 9);
         Check.row(z, 1, 0, 1, 6);
         int[][] bad = {{4, 0, 3}, {0, 1, 3}, {6, 0, 1}, {0, 3, 1}, {7, 0, 0}, {0, 4, 0}, {0, 0, 4}, {-1, 0, 1}, {0, -1, 1}, {0, 0, -1}, {-1, 0, 0}, {0, -1, 0},
