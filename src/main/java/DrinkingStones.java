@@ -576,44 +576,27 @@ public final class DrinkingStones {
     // ---- by what was seen ----
 
     public int rooms(int slot, int stone) {
-        int refused = refusalOfSeen(slot, stone);
-        return refused < 0 ? refused : guessRooms(slot, stone);
+        return guessRooms(slot, stone);
     }
 
     public int least(int slot, int stone) {
-        int refused = refusalOfSeen(slot, stone);
-        if (refused < 0) {
-            return refused;
-        }
-        guessRooms(slot, stone);
-        return guess.leastRoom();
+        int many = guessRooms(slot, stone);
+        return many < 0 ? many : guess.leastRoom();
     }
 
     public int greatest(int slot, int stone) {
-        int refused = refusalOfSeen(slot, stone);
-        if (refused < 0) {
-            return refused;
-        }
-        guessRooms(slot, stone);
-        return guess.greatestRoom();
+        int many = guessRooms(slot, stone);
+        return many < 0 ? many : guess.greatestRoom();
     }
 
     public int ask(int slot, int stone) {
-        int refused = refusalOfSeen(slot, stone);
-        if (refused < 0) {
-            return refused;
-        }
-        guessRooms(slot, stone);
-        return guess.bestYear(world.years);
+        int many = guessRooms(slot, stone);
+        return many < 0 ? many : guess.bestYear(world.years);
     }
 
     public int leaves(int slot, int stone) {
-        int refused = refusalOfSeen(slot, stone);
-        if (refused < 0) {
-            return refused;
-        }
         int many = guessRooms(slot, stone);
-        int year = guess.bestYear(world.years);
+        int year = many < 0 ? NONE : guess.bestYear(world.years);
         return year == NONE ? many : guess.worstAt(year);
     }
 
@@ -1061,10 +1044,6 @@ public final class DrinkingStones {
 
     // ---- seen ----
 
-    private int refusalOfSeen(int slot, int stone) {
-        return isStone(stone) ? refusalOfRow(slot) : NO_SUCH;
-    }
-
     private int refusalOfRow(int slot) {
         if (!isSlot(slot) || !isTold()) {
             return NO_SUCH;
@@ -1101,7 +1080,12 @@ public final class DrinkingStones {
         return true;
     }
 
+    /** Keeps in guess the rooms that a stone can have had: how many, or why that can't be asked (below 0). */
     private int guessRooms(int slot, int stone) {
+        int refused = isStone(stone) ? refusalOfRow(slot) : NO_SUCH;
+        if (refused < 0) {
+            return refused;
+        }
         guess.clear();
         for (int room = 1; room <= MOST_ROOM; room++) {
             Change change = otherwise();

@@ -4,7 +4,9 @@ import java.lang.reflect.Method;
 import java.lang.reflect.Modifier;
 import java.nio.file.Files;
 import java.nio.file.Path;
+import java.util.HashMap;
 import java.util.HashSet;
+import java.util.Map;
 import java.util.Set;
 import java.util.regex.Matcher;
 import java.util.regex.Pattern;
@@ -14,11 +16,15 @@ public final class LanguageTest {
     private static final Check CHECK = new Check();
     private static final Path SOURCE = Path.of("src/main/java/DrinkingStones.java");
     private static final Path DOCUMENT = Path.of("../shared/DOC.md");
+    /** A method's or constructor's first line: how far in it stands, its name, its parameters. */
+    private static final Pattern HEAD = Pattern.compile(
+            "(?m)^( {4}| {8})(?:public |private |static |final )*(?:[\\w\\[\\]]+ )?(\\w+)\\(([^)]*)\\) \\{$");
 
     public static void main(String[] args) throws Exception {
         String code = stripped(Files.readString(SOURCE));
         forbidden(code);
         methods(code);
+        calls(code);
         face();
         nested();
         CHECK.end("LanguageTest");
@@ -52,17 +58,54 @@ public final class LanguageTest {
     }
 
     private static void methods(String code) {
-        Matcher head = Pattern.compile("(?m)^( +)(?:public |private |static |final )*[\\w\\[\\]]+ ?\\w*\\(([^)]*)\\) \\{$").matcher(code);
+        Matcher head = HEAD.matcher(code);
         int found = 0;
         while (head.find()) {
-            String rest = code.substring(head.end());
-            int end = rest.indexOf("\n" + head.group(1) + "}");
-            long lines = rest.substring(0, end).chars().filter(c -> c == '\n').count();
+            long lines = body(code, head).chars().filter(c -> c == '\n').count();
             ok("rule 11: sixty lines, " + head.group().trim(), lines <= 60);
-            ok("rule 11: seven parameters, " + head.group().trim(), head.group(2).split(",").length <= 7);
+            ok("rule 11: seven parameters, " + head.group().trim(), head.group(3).split(",").length <= 7);
             found++;
         }
-        ok("methods were found", found > 120);
+        ok("methods were found: " + found, found > 150);
+    }
+
+    private static String body(String code, Matcher head) {
+        return code.substring(head.end(), code.indexOf("\n" + head.group(1) + "}", head.end()));
+    }
+
+    /** Calls go at most eight deep, none comes back to itself, and only a first image and a first row make objects. */
+    private static void calls(String code) {
+        Map<String, String> bodies = new HashMap<>();
+        Matcher head = HEAD.matcher(code);
+        while (head.find()) {
+            int inside = code.lastIndexOf(" class ", head.start());
+            String owner = code.substring(inside + 7, code.indexOf(' ', inside + 7));
+            String name = owner + "." + head.group(2);
+            ok("one method is called " + name, bodies.put(name, body(code, head)) == null);
+            boolean makes = body(code, head).contains("new ");
+            boolean may = name.equals("DrinkingStones.image") || name.equals("DrinkingStones.row");
+            ok("rule 12: makes no objects, " + name, !makes || may || name.equals("Events.Events"));
+        }
+        int deepest = 0;
+        for (String name : bodies.keySet()) {
+            deepest = Math.max(deepest, depth(bodies, name, 1));
+        }
+        ok("rule 11: eight deep, not " + deepest, deepest > 4 && deepest <= 8);
+    }
+
+    /** How deep calls go from a method on; a name that several classes have stands for all of them. */
+    private static int depth(Map<String, String> bodies, String name, int open) {
+        if (open > 20) {
+            return open;
+        }
+        int deepest = open;
+        for (String other : bodies.keySet()) {
+            String called = "\\b" + other.substring(other.indexOf('.') + 1) + "\\(";
+            if (!other.equals(name) && Pattern.compile(called).matcher(bodies.get(name)).find()) {
+                deepest = Math.max(deepest, depth(bodies, other, open + 1));
+            }
+        }
+        return deepest;
     }
 
     /** The public members are those of the document's face, one by one. */
